@@ -20,11 +20,28 @@ final class Due {
         return new PartedSums();
     }
 
+    /** Names the words of the document that are tested next, and gives a new object for them. */
+    PartedSums sentence(String section, String... words) {
+        PartedSums x = start(section + ", " + String.join(" / ", words));
+        for (String clause : words) {
+            is("the document says this", Document.quote(section, clause) ? 1 : 0, 1);
+        }
+        return x;
+    }
+
     void is(String call, long got, long want) {
         answers++;
         if (got != want) {
             wrong++;
             System.out.println(part + ": " + call + " answered " + got + ", due is " + want);
+        }
+    }
+
+    void same(String call, String got, String want) {
+        answers++;
+        if (!got.equals(want)) {
+            wrong++;
+            System.out.println(part + ": " + call + " " + got + ", due: " + want);
         }
     }
 

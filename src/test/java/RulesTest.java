@@ -26,6 +26,7 @@ public final class RulesTest {
         publicMembersAreTheFace();
         otherMembersArePrivate();
         classesInside();
+        sizesOfMethods();
         wordsOfTheProgram();
         due.end();
     }
@@ -85,6 +86,24 @@ public final class RulesTest {
             due.is(inside + " is static", Modifier.isStatic(inside.getModifiers()) ? 1 : 0, 1);
             due.is(inside + " has some twenty fields", inside.getDeclaredFields().length <= 20 ? 1 : 0, 1);
         }
+    }
+
+    private static void sizesOfMethods() throws IOException {
+        due.start("rule 11, methods");
+        due.is("seven parameters at most, of the face", mostParameters(PartedSums.class) <= 7 ? 1 : 0, 1);
+        for (Class<?> inside : PartedSums.class.getDeclaredClasses()) {
+            due.is("seven parameters at most, of " + inside, mostParameters(inside) <= 7 ? 1 : 0, 1);
+        }
+        int lines = 0;
+        for (String line : Files.readAllLines(PROGRAM)) {
+            boolean ends = line.equals("    }") || line.equals("        }");
+            lines = ends || line.isBlank() ? 0 : lines + 1;
+            due.is("sixty lines at most: " + line, lines <= 60 ? 1 : 0, 1);
+        }
+    }
+
+    private static int mostParameters(Class<?> owner) {
+        return Arrays.stream(owner.getDeclaredMethods()).mapToInt(Method::getParameterCount).max().orElse(0);
     }
 
     private static void wordsOfTheProgram() throws IOException {
