@@ -2,6 +2,7 @@
 public final class BoundaryTest {
     public static void main(String[] args) {
         Due due = new Due("BoundaryTest");
+        new IntroBoundaries(due).test();
         new TermsBoundaries(due).test();
         new ErrorBoundaries(due).test();
         new WriterBoundaries(due).test();

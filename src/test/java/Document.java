@@ -3,23 +3,29 @@ import java.io.UncheckedIOException;
 import java.nio.file.Files;
 import java.nio.file.Path;
 import java.util.ArrayList;
+import java.util.Collection;
 import java.util.HashMap;
 import java.util.LinkedHashMap;
 import java.util.List;
 import java.util.Map;
+import java.util.regex.Matcher;
+import java.util.regex.Pattern;
 
 /** ../shared/DOC.md by its sections, and what of it the tests have quoted. */
 final class Document {
     private static final Path FILE = Path.of("../shared/DOC.md");
-    private static final String FIRST = "Terms";
+    private static final String FIRST = "What it is";
     private static final String BEHIND = "Not promised";
+    private static final String LAYOUT = "Ahead of the calls ";
+
+    private static final Pattern METHOD = Pattern.compile(" *public int (\\w+)\\((.*)\\);");
 
     private static final Map<String, String> texts = read();
     private static final Map<String, List<String>> quotes = new HashMap<>();
 
     private Document() { }
 
-    /** The text of each section from the terms to the last promise. */
+    /** The text of each section from the first one to the last promise. */
     private static Map<String, String> read() {
         Map<String, String> sections = new LinkedHashMap<>();
         String section = "";
@@ -37,7 +43,7 @@ final class Document {
 
     /** Headings, and what says how the interface is laid out, are no text. */
     private static boolean isText(String line) {
-        return (line.endsWith(".") || line.startsWith("- ")) && !line.startsWith("Ahead of the calls");
+        return (line.endsWith(".") || line.startsWith("- ")) && !line.startsWith(LAYOUT);
     }
 
     private static List<String> lines() {
@@ -46,6 +52,35 @@ final class Document {
         } catch (IOException e) {
             throw new UncheckedIOException(e);
         }
+    }
+
+    static Collection<String> texts() {
+        return texts.values();
+    }
+
+    /** The lines of the code that shows the public face. */
+    static List<String> face() {
+        List<String> lines = lines();
+        int start = lines.indexOf("```java");
+        return lines.subList(start + 1, start + lines.subList(start, lines.size()).indexOf("```"));
+    }
+
+    /** The methods of the public face as name/number of parameters, in their order. */
+    static List<String> methods() {
+        List<String> methods = new ArrayList<>();
+        for (String line : face()) {
+            Matcher method = METHOD.matcher(line);
+            if (method.matches()) {
+                String parameters = method.group(2);
+                methods.add(method.group(1) + "/" + (parameters.isEmpty() ? 0 : parameters.split(", ").length));
+            }
+        }
+        return methods;
+    }
+
+    /** The lines that say behind which words of the interface calls stand. */
+    static List<String> layout() {
+        return lines().stream().filter(line -> line.startsWith(LAYOUT)).toList();
     }
 
     /** Notes that the words have a test; returns whether the section has them. */

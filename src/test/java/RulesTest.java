@@ -6,6 +6,7 @@ import java.lang.reflect.Modifier;
 import java.nio.file.Files;
 import java.nio.file.Path;
 import java.util.Arrays;
+import java.util.List;
 import java.util.Set;
 import java.util.TreeSet;
 import java.util.regex.Matcher;
@@ -15,15 +16,14 @@ import java.util.regex.Pattern;
 public final class RulesTest {
     private static final Due due = new Due("RulesTest");
     private static final Path PROGRAM = Path.of("src/main/java/PartedSums.java");
-    private static final String FACE = "writer/1 add/2 take/2 retire/2 move/2 view/1 drop/1 merge/2 post/3 tick/1"
-        + " viewOf/2 partOf/3 writerOf/2 letterOf/2 lacks/3 whole/0 seen/0 rounds/0 would/2 latest/1 count/1 undo/0"
-        + " type/1 clearText/0 fault/1 play/0";
+    private static final List<String> FACE = Document.methods();
     private static final String FORBIDDEN = "\\b(throw|throws|try|catch|finally|synchronized|assert|import|package"
         + "|protected|volatile|native|transient|System\\.(?!arraycopy)\\w+|Thread|Exception|Error|Object|String)\\b|->|::";
 
-    public static void main(String[] args) throws IOException {
+    public static void main(String[] args) throws IOException, ReflectiveOperationException {
         constants();
         publicMembersAreTheFace();
+        layout();
         otherMembersArePrivate();
         classesInside();
         sizesOfMethods();
@@ -31,35 +31,69 @@ public final class RulesTest {
         due.end();
     }
 
-    private static void constants() {
-        due.start("constants");
-        due.is("INVALID_ARGUMENT", PartedSums.INVALID_ARGUMENT, -2000000001);
-        due.is("NOT_POSSIBLE", PartedSums.NOT_POSSIBLE, -2000000002);
-        due.is("LIMIT_REACHED", PartedSums.LIMIT_REACHED, -2000000003);
-        due.is("NOT_FOUND", PartedSums.NOT_FOUND, -2000000004);
+    private static void constants() throws ReflectiveOperationException {
+        due.start("the public face, constants");
+        int constants = 0;
+        for (String line : Document.face()) {
+            Matcher constant = Pattern.compile(" *public static final int (\\w+) = (-\\d+);").matcher(line);
+            if (constant.matches()) {
+                Field field = PartedSums.class.getDeclaredField(constant.group(1));
+                due.is(field + " is public static final", field.getModifiers(), Modifier.PUBLIC | Modifier.STATIC | Modifier.FINAL);
+                due.is(line.strip(), field.getInt(null), Integer.parseInt(constant.group(2)));
+                constants++;
+            }
+        }
+        due.is("constants of the document", constants, 4);
+        due.is("INVALID_ARGUMENT", PartedSums.INVALID_ARGUMENT, Due.INVALID);
+        due.is("NOT_POSSIBLE", PartedSums.NOT_POSSIBLE, Due.IMPOSSIBLE);
+        due.is("LIMIT_REACHED", PartedSums.LIMIT_REACHED, Due.LIMIT);
+        due.is("NOT_FOUND", PartedSums.NOT_FOUND, Due.MISSING);
     }
 
     private static void publicMembersAreTheFace() {
         due.start("rule 1, the face");
-        Set<String> wanted = new TreeSet<>(Arrays.asList(FACE.split(" ")));
         Set<String> there = new TreeSet<>();
         for (Method method : PartedSums.class.getDeclaredMethods()) {
             if (Modifier.isPublic(method.getModifiers())) {
                 there.add(method.getName() + "/" + method.getParameterCount());
                 due.is(method + " answers an int", method.getReturnType() == int.class ? 1 : 0, 1);
+                due.is(method + " is of an object", method.getModifiers(), Modifier.PUBLIC);
+                due.is(method + " takes numbers", Arrays.stream(method.getParameterTypes()).allMatch(int.class::equals) ? 1 : 0, 1);
             }
         }
-        due.is("the face is " + there, there.equals(wanted) ? 1 : 0, 1);
+        due.is("calls of the document", FACE.size(), 26);
+        due.is("the face is " + there, there.equals(new TreeSet<>(FACE)) ? 1 : 0, 1);
         Constructor<?>[] constructors = PartedSums.class.getDeclaredConstructors();
         due.is("constructors", constructors.length, 1);
         due.is("public", Modifier.isPublic(constructors[0].getModifiers()) ? 1 : 0, 1);
+        due.is("of nothing", constructors[0].getParameterCount(), 0);
         due.is("final", Modifier.isFinal(PartedSums.class.getModifiers()) ? 1 : 0, 1);
+    }
+
+    /** The program has the lines of the document's face in their order, and its words ahead of the calls. */
+    private static void layout() throws IOException {
+        due.start("the public face, its lines");
+        String code = Files.readString(PROGRAM);
+        int at = 0;
+        for (String line : Document.face()) {
+            int next = code.indexOf(line.replaceFirst("(\\));$", "$1 {"), at);
+            due.is("the program has, behind those ahead, " + line, next >= at ? 1 : 0, 1);
+            at = Math.max(at, next);
+        }
+        due.is("groups of calls", Document.layout().size(), 5);
+        for (String line : Document.layout()) {
+            String words = line.replaceFirst(".* the interface says: (.*)\\.", "$1");
+            String first = line.replaceFirst("[^`]*`(\\w+)`.*", "$1");
+            int heading = code.indexOf("    // " + words + "\n");
+            int behind = code.indexOf("    public ", heading);
+            due.is(words + " is ahead of " + first, heading >= 0 && code.startsWith("    public int " + first + "(", behind) ? 1 : 0, 1);
+        }
     }
 
     private static void otherMembersArePrivate() {
         due.start("rules 1 and 5, other members");
         Set<String> names = new TreeSet<>();
-        for (String member : FACE.split(" ")) {
+        for (String member : FACE) {
             names.add(member.substring(0, member.indexOf('/')));
         }
         for (Method method : PartedSums.class.getDeclaredMethods()) {
